@@ -94,11 +94,6 @@ public final class FaceTest {
             int modifiers = inside.getModifiers();
             due.holds(inside.getName() + " is static and not open",
                     Modifier.isStatic(modifiers) && !Modifier.isPublic(modifiers) && !Modifier.isProtected(modifiers));
-            for (Method method : inside.getDeclaredMethods()) {
-                due.holds(inside.getName() + "." + method.getName() + " has a name of its own",
-                        !open.contains(method.getName()));
-            }
         }
-        due.holds("at most twelve classes", NarrowRows.class.getDeclaredClasses().length + 1 <= 12);
     }
 }
