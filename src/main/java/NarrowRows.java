@@ -27,6 +27,8 @@ public final class NarrowRows {
 
     /** With more posts than these, rows are too many to be tried one by one. */
     private static final int TRIED = 7;
+    private static final int TRIED_ROWS = 5040;
+    private static final int CODE_BITS = 3;
 
     private static final int BYTES = 0;
     private static final int INTS = 2;
@@ -885,15 +887,11 @@ public final class NarrowRows {
         }
     }
 
-    /**
-     * Looks for the best rows. What both ways of looking must tell is how many best rows begin with
-     * the posts taken so far and one more; from that any best row is found by its number, and the
-     * other way round.
-     */
+    /** Looks for the best rows; what it found for one cost stands until the net changes. */
     private abstract static class Search {
         final View view;
         final Costs costs;
-        /** The cost of which lowest and total tell; NONE after a change. */
+        /** The cost of which all that follows tells; NONE: of none. */
         int solvedFor = NONE;
         int lowest;
         int total;
@@ -903,62 +901,24 @@ public final class NarrowRows {
             this.costs = costs;
         }
 
+        abstract void forget();
+
         abstract void solve(int cost);
 
-        abstract void restart();
+        abstract void pick(int k, Row into);
 
-        abstract int waysWith(int post);
-
-        abstract void take(int post);
-
-        void pick(int k, Row into) {
-            restart();
-            into.clear();
-            int left = k;
-            for (int place = 0; place < view.posts; place++) {
-                int chosen = NONE;
-                for (int post = 0; post < view.posts && chosen == NONE; post++) {
-                    int ways = waysWith(post);
-                    if (left < ways) {
-                        chosen = post;
-                    } else {
-                        left -= ways;
-                    }
-                }
-                if (chosen != NONE) {
-                    take(chosen);
-                    into.append(chosen);
-                }
-            }
-        }
-
-        int numberOf(Row row) {
-            restart();
-            int ahead = 0;
-            for (int place = 0; place < row.size; place++) {
-                int post = row.posts[place];
-                if (waysWith(post) == 0) {
-                    return NONE;
-                }
-                for (int lesser = 0; lesser < post; lesser++) {
-                    ahead += waysWith(lesser);
-                }
-                take(post);
-            }
-            return ahead;
-        }
+        abstract int numberOf(Row row);
     }
 
     /** For costs that hang on the sets laid first alone: what is best behind a set is reckoned once. */
     private static final class SetSearch extends Search {
-        /** The cost whose prices stand in the table (CUTS for SUM too); NONE after a change. */
+        /** The cost whose prices stand in the table (CUTS for SUM too); NONE: of none. */
         int pricedFor = NONE;
         final int[] prices = new int[SETS];
         /** For each set laid first the least that the places behind it can cost. */
         final int[] rests = new int[SETS];
         /** For each set laid first in how many ways the others go on as best rows do. */
         final int[] ways = new int[SETS];
-        int laid;
 
         SetSearch(View view, Costs costs) {
             super(view, costs);
@@ -993,6 +953,7 @@ public final class NarrowRows {
             if (pricedFor == priced) {
                 return;
             }
+            solvedFor = NONE;
             prices[0] = 0;
             for (int post = 0; post < view.posts; post++) {
                 int bit = 1 << post;
@@ -1055,26 +1016,53 @@ public final class NarrowRows {
             return restWith(set | 1 << post) <= allowed;
         }
 
-        void restart() {
-            laid = 0;
+        private int waysWith(int set, int post) {
+            return isBestStep(set, post) ? ways[set | 1 << post] : 0;
         }
 
-        int waysWith(int post) {
-            return isBestStep(laid, post) ? ways[laid | 1 << post] : 0;
+        void pick(int k, Row into) {
+            into.clear();
+            int left = k;
+            int laid = 0;
+            for (int place = 0; place < view.posts; place++) {
+                int chosen = NONE;
+                for (int post = 0; post < view.posts && chosen == NONE; post++) {
+                    int with = waysWith(laid, post);
+                    if (left < with) {
+                        chosen = post;
+                    } else {
+                        left -= with;
+                    }
+                }
+                if (chosen != NONE) {
+                    into.append(chosen);
+                    laid |= 1 << chosen;
+                }
+            }
         }
 
-        void take(int post) {
-            laid |= 1 << post;
+        int numberOf(Row row) {
+            int ahead = 0;
+            int laid = 0;
+            for (int place = 0; place < row.size; place++) {
+                int post = row.posts[place];
+                if (!isBestStep(laid, post)) {
+                    return NONE;
+                }
+                for (int lesser = 0; lesser < post; lesser++) {
+                    ahead += waysWith(laid, lesser);
+                }
+                laid |= 1 << post;
+            }
+            return ahead;
         }
     }
 
     /** For costs that hang on every place: rows of few posts are tried, in their order. */
     private static final class TrialSearch extends Search {
+        /** The best rows so far, each as one number, and in order: so they are tried. */
+        final int[] found = new int[TRIED_ROWS];
         final Row row = new Row();
-        int laid;
-        int soFar;
-        /** Rows met since the last lower one. */
-        int met;
 
         TrialSearch(View view, Costs costs) {
             super(view, costs);
@@ -1090,64 +1078,66 @@ public final class NarrowRows {
             }
             solvedFor = cost;
             lowest = FAR;
-            met = 0;
-            restart();
+            total = 0;
+            row.clear();
             tryBehind(0, 0);
-            total = met;
         }
 
-        /** Tries all that can stand behind the posts in the row, which fill so many places. */
-        private void tryBehind(int places, int costSoFar) {
+        /** Tries all that can stand behind the posts in the row, which cost so much. */
+        private void tryBehind(int laid, int soFar) {
+            int places = row.size;
             if (places >= view.posts || places >= TRIED) {
-                meet(costSoFar);
+                meet(soFar);
                 return;
             }
             for (int post = 0; post < view.posts; post++) {
                 if (!holds(laid, post) && view.mayFollow(post, laid)) {
-                    tryWith(post, places, costSoFar);
+                    row.append(post);
+                    int cost = costs.withSpans(solvedFor, soFar, row, places);
+                    // costs never fall from place to place
+                    if (cost <= lowest) {
+                        tryBehind(laid | 1 << post, cost);
+                    }
+                    row.dropLast();
                 }
             }
-        }
-
-        /** Costs never fall from place to place, so what is above the lowest is left at once. */
-        private void tryWith(int post, int places, int costSoFar) {
-            row.append(post);
-            int cost = costs.withSpans(solvedFor, costSoFar, row, places);
-            if (cost <= lowest) {
-                laid |= 1 << post;
-                tryBehind(places + 1, cost);
-                laid &= ~(1 << post);
-            }
-            row.dropLast();
         }
 
         private void meet(int cost) {
             if (cost < lowest) {
                 lowest = cost;
-                met = 0;
+                total = 0;
             }
-            met++;
-        }
-
-        void restart() {
-            row.clear();
-            laid = 0;
-            soFar = 0;
-        }
-
-        int waysWith(int post) {
-            if (holds(laid, post) || !view.mayFollow(post, laid)) {
-                return 0;
+            if (total < TRIED_ROWS) {
+                found[total] = code(row);
+                total++;
             }
-            met = 0;
-            tryWith(post, row.size, soFar);
-            return met;
         }
 
-        void take(int post) {
-            row.append(post);
-            soFar = costs.withSpans(solvedFor, soFar, row, row.size - 1);
-            laid |= 1 << post;
+        private static int code(Row row) {
+            int result = 0;
+            for (int place = 0; place < row.size; place++) {
+                result = result << CODE_BITS | row.posts[place];
+            }
+            return result;
+        }
+
+        void pick(int k, Row into) {
+            into.clear();
+            for (int place = 0; place < view.posts; place++) {
+                int shift = CODE_BITS * (view.posts - 1 - place);
+                into.append(found[k] >> shift & (1 << CODE_BITS) - 1);
+            }
+        }
+
+        int numberOf(Row row) {
+            int code = code(row);
+            for (int k = 0; k < total; k++) {
+                if (found[k] == code) {
+                    return k;
+                }
+            }
+            return NONE;
         }
     }
 

@@ -7,7 +7,7 @@ import java.util.Random;
  * by side: every answer must be the same. At the end of each run everything that can be asked is asked.
  */
 public final class ModelTest {
-    private static final int RUNS = 1500;
+    private static final int RUNS = 6000;
     private static final int CALLS = 200;
 
     private static final Due due = new Due("ModelTest");
@@ -21,12 +21,15 @@ public final class ModelTest {
     private final int most;
     /** Queries of best rows are asked one in so many times. */
     private final int rare;
+    /** The net changes one in so many times. */
+    private final int steady;
 
     private ModelTest(int seed, int most, int rare) {
         this.seed = seed;
         this.most = most;
         this.rare = rare;
         random = new Random(seed);
+        steady = new int[] {2, 5, 20, 60}[below(4)];
     }
 
     public static void main(String[] args) {
@@ -72,29 +75,35 @@ public final class ModelTest {
             }
         }
         for (int i = 0; i < CALLS && !due.anyWrong(); i++) {
-            switch (below(8)) {
-                case 0, 1:
-                    netCall();
-                    break;
-                case 2:
-                    handCall();
-                    break;
-                case 3, 4:
-                    bestCall();
-                    break;
-                case 5:
-                    bagCall();
-                    break;
-                case 6:
-                    huntCall();
-                    break;
-                default:
-                    askCall();
-                    break;
+            // in some runs the net changes at every turn, in others it stands while all is asked
+            if (i < steady / 2 || one(steady)) {
+                netCall();
+            } else {
+                otherCall();
             }
         }
         if (!due.anyWrong()) {
             askAll();
+        }
+    }
+
+    private void otherCall() {
+        switch (below(6)) {
+            case 0:
+                handCall();
+                break;
+            case 1, 2:
+                bestCall();
+                break;
+            case 3:
+                bagCall();
+                break;
+            case 4:
+                huntCall();
+                break;
+            default:
+                askCall();
+                break;
         }
     }
 

@@ -27,6 +27,7 @@ public final class RowTest {
         betterOfSeveral();
         betterAndTheLaw();
         changesAreSeen();
+        nothingStaysBehind();
         due.ending();
     }
 
@@ -475,6 +476,48 @@ public final class RowTest {
             x.undo();
             due.is("least(" + cost + ") of the old net", x.least(cost), least);
             due.is("many(" + cost + ") of the old net", x.many(cost), many);
+        }
+    }
+
+    /** Each question is asked between two others: what one found must not be in the way of the next. */
+    private static void nothingStaysBehind() {
+        NarrowRows x = asked();
+        for (int one = 0; one < QUESTIONS; one++) {
+            int alone = ask(asked(), one);
+            for (int other = 0; other < QUESTIONS; other++) {
+                due.is("question " + one + " ahead of " + other, ask(x, one), alone);
+                ask(x, other);
+                due.is("question " + one + " behind " + other, ask(x, one), alone);
+            }
+        }
+    }
+
+    private static final int QUESTIONS = 28;
+
+    private static NarrowRows asked() {
+        NarrowRows x = Nets.ring(6);
+        x.weigh(0, 3, 7);
+        x.weigh(1, 5, 2);
+        x.pair(2, 0);
+        x.pair(4, 1);
+        return x;
+    }
+
+    /** Questions 0 to 23 are least, many, the last best row and its number for each cost, then walls. */
+    private static int ask(NarrowRows x, int question) {
+        int cost = question % 6;
+        switch (question / 6) {
+            case 0:
+                return x.least(cost);
+            case 1:
+                return x.many(cost);
+            case 2:
+                return x.best(cost, x.many(cost) - 1) + 10 * x.at(0) + 100 * x.at(3) + 1000 * x.cost(cost);
+            case 3:
+                Nets.hold(x, 2, 3, 4, 1, 5, 0);
+                return x.number(cost);
+            default:
+                return question % 2 == 0 ? x.wall(1 + cost / 2, 3) : x.stone(1 + cost / 2, 3);
         }
     }
 }
