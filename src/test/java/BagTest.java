@@ -18,6 +18,7 @@ public final class BagTest {
         rowsOfBags();
         bagsAfterUndo();
         thereAndBack();
+        fullHandOfBags();
         due.ending();
     }
 
@@ -256,8 +257,8 @@ public final class BagTest {
         NarrowRows x = Nets.ring(7);
         x.weigh(1, 5, 4);
         x.weigh(2, 6, 1);
-        for (int k = 0; k < 40; k++) {
-            due.is("best(5, " + k * 120 + ")", x.best(5, k * 120), 7);
+        for (int k = 0; k < 20; k++) {
+            due.is("best(5, " + k * 250 + ")", x.best(5, k * 250), 7);
             int opens = x.cost(2);
             x.empty();
             for (int i = 0; i < 7; i++) {
@@ -265,7 +266,48 @@ public final class BagTest {
             }
             due.is("good()", x.good(), 0);
             due.is("rowOf()", x.rowOf(), opens + 1);
-            due.is("number(5) of the same row", x.number(5), k * 120);
+            due.is("number(5) of the same row", x.number(5), k * 250);
         }
+    }
+
+    /** 20 bags; and of those that were there before empty() nothing is left. */
+    private static void fullHandOfBags() {
+        NarrowRows x = Nets.of(11);
+        for (int i = 0; i < 10; i++) {
+            x.weigh(i, i + 1, 1);
+        }
+        x.lay(1 << 10);
+        for (int i = 9; i >= 0; i--) {
+            x.lay(3 << i);
+        }
+        for (int i = 11; i < 20; i++) {
+            due.is("lay no. " + i, x.lay(1), i + 1);
+        }
+        due.is("20 bags: good()", x.good(), 0);
+        due.is("20 bags: rowOf()", x.rowOf(), 2);
+        Nets.held(due, "20 bags", x, 10, 9, 8, 7, 6, 5, 4, 3, 2, 1, 0);
+        x.empty();
+        for (int i = 0; i < 19; i++) {
+            x.lay(1);
+        }
+        x.lay(2046);
+        due.is("20 others: good()", x.good(), 201);
+        x.empty();
+        x.lay(2047);
+        due.is("one bag, and none of those that were: good()", x.good(), 0);
+        due.is("one bag: rowOf()", x.rowOf(), 11);
+        x.empty();
+        x.lay(1);
+        due.is("one post alone, and none of those that were", x.good(), 101);
+        NarrowRows y = Nets.of(2);
+        y.lay(1);
+        y.lay(2);
+        y.lay(3);
+        y.lay(3);
+        y.empty();
+        y.lay(1);
+        y.lay(2);
+        due.is("what was there does not tear", y.good(), 0);
+        due.is("what was there does not count", y.rowOf(), 1);
     }
 }

@@ -17,6 +17,7 @@ public final class HuntTest {
         foulUpToSearchers();
         idleMoves();
         huntsOfANewNet();
+        lastPost();
         counts();
         due.ending();
     }
@@ -198,6 +199,25 @@ public final class HuntTest {
         go(x, 101, 100);
         x.lose(2);
         cleaned("a road less", x, 0, 3, 0, 1);
+    }
+
+    private static void lastPost() {
+        NarrowRows x = Nets.path(11);
+        cleaned("eleven", x, 10, 0, 0, 0);
+        go(x, 10, 9, 8, 109);
+        cleaned("from the end", x, 8, 3, 0, 0);
+        go(x, 108);
+        cleaned("8 goes", x, 10, 3, 2, 0);
+        go(x, 110, 110);
+        cleaned("10 goes", x, 10, 3, 2, 1);
+        NarrowRows star = Nets.of(11);
+        for (int i = 0; i < 10; i++) {
+            star.weigh(10, i, 1);
+        }
+        go(star, 10, 0, 100, 1, 101, 2, 102, 3, 103);
+        cleaned("star of 10", star, 6, 2, 0, 0);
+        go(star, 110);
+        cleaned("star of 10: 10 goes", star, 10, 2, 4, 0);
     }
 
     /** Promise 35. */

@@ -8,7 +8,9 @@ import java.util.Random;
  */
 public final class ModelTest {
     private static final int RUNS = 6000;
-    private static final int CALLS = 200;
+    /** An object is used for 512 calls: so many by chance, the others at the end. */
+    private static final int CALLS = 260;
+    private static final int ALL_CALLS = 512;
 
     private static final Due due = new Due("ModelTest");
 
@@ -74,7 +76,7 @@ public final class ModelTest {
                 sheetCall(i);
             }
         }
-        for (int i = 0; i < CALLS && !due.anyWrong(); i++) {
+        for (int i = 0; story.size() < CALLS && i < CALLS && !due.anyWrong(); i++) {
             // in some runs the net changes at every turn, in others it stands while all is asked
             if (i < steady / 2 || one(steady)) {
                 netCall();
@@ -85,6 +87,7 @@ public final class ModelTest {
         if (!due.anyWrong()) {
             askAll();
         }
+        due.holds("seed " + seed + ": calls of one object: " + story.size(), story.size() <= ALL_CALLS);
     }
 
     private void otherCall() {
@@ -350,32 +353,35 @@ public final class ModelTest {
     }
 
     private void askAll() {
-        for (int what = -1; what < 11; what++) {
+        int posts = model.state.posts;
+        for (int what = -1; what <= 9; what++) {
             is("count(" + what + ")", rows.count(what), model.count(what));
         }
-        for (int post = -1; post < 12; post++) {
-            for (int what = -1; what < 6; what++) {
+        for (int post = 0; post < posts; post++) {
+            for (int what = 0; what <= 4; what++) {
                 is("about(" + post + ", " + what + ")", rows.about(post, what), model.about(post, what));
             }
-            for (int other = -1; other < 12; other++) {
+            for (int other = 0; other < post; other++) {
                 is("road(" + post + ", " + other + ")", rows.road(post, other), model.road(post, other));
             }
             askBag(post);
         }
-        for (int what = -1; what < 5; what++) {
+        for (int what = 0; what <= 3; what++) {
             is("clean(" + what + ")", rows.clean(what), model.clean(what));
         }
         is("good()", rows.good(), model.good());
         is("lawful()", rows.lawful(), model.lawful());
-        for (int cost = -1; cost < 7; cost++) {
+        for (int cost = 0; cost <= 5; cost++) {
             is("cost(" + cost + ")", rows.cost(cost), model.cost(cost));
             is("where(" + cost + ")", rows.where(cost), model.where(cost));
-            if (model.state.posts < 8) {
+            if (posts < 8) {
                 is("least(" + cost + ")", rows.least(cost), model.least(cost));
                 is("many(" + cost + ")", rows.many(cost), model.many(cost));
                 is("number(" + cost + ")", rows.number(cost), model.number(cost));
             }
-            for (int size = -1; size < 12; size++) {
+        }
+        for (int size = 1; size < posts; size++) {
+            for (int cost = 1; cost <= 2; cost++) {
                 is("wall(" + cost + ", " + size + ")", rows.wall(cost, size), model.wall(cost, size));
                 is("stone(" + cost + ", " + size + ")", rows.stone(cost, size), model.stone(cost, size));
             }

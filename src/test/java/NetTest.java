@@ -21,6 +21,7 @@ public final class NetTest {
         undone();
         undoneOfEachKind();
         undoLeavesTheRest();
+        lastPost();
         due.ending();
     }
 
@@ -421,5 +422,53 @@ public final class NetTest {
         due.is("rowOf()", x.rowOf(), 2);
         due.is("count(4)", x.count(4), 2);
         due.is("lawful() then", x.lawful(), 1);
+    }
+
+    /** Post 10 and place 10, the last there can be, with all that is done to them taken back. */
+    private static void lastPost() {
+        NarrowRows x = with(11);
+        due.is("sheet(10, 2, 11)", x.sheet(10, 2, 11), 11);
+        due.is("sheet(9, 2, 11)", x.sheet(9, 2, 11), 11);
+        due.is("weigh(9, 10, 1000)", x.weigh(9, 10, 1000), 0);
+        due.is("weigh(10, 9, 1000)", x.weigh(10, 9, 1000), 0);
+        due.is("weigh(10, 10, 5)", x.weigh(10, 10, 5), 0);
+        due.is("road(10, 9)", x.road(10, 9), 2000);
+        due.is("about(10, 2)", x.about(10, 2), 1);
+        due.is("about(10, 3)", x.about(10, 3), 2000);
+        due.is("count(3)", x.count(3), 2);
+        due.is("sheet(10, 1, 11) anew", x.sheet(10, 1, 11), 11);
+        due.is("weigh(10, 10, 6) of the new one", x.weigh(10, 10, 6), 0);
+        x.undo();
+        due.is("undo() of the sheet", x.undo(), 6);
+        due.is("weigh(10, 10, 7) of the old one", x.weigh(10, 10, 7), 5);
+        due.is("weigh(10, 10, 8)", x.weigh(10, 10, 8), 7);
+        due.is("undo()", x.undo(), 7);
+        due.is("weigh(10, 10, 9) after it", x.weigh(10, 10, 9), 7);
+        due.is("about(10, 0)", x.about(10, 0), 2);
+        due.is("pair(10, 0)", x.pair(10, 0), 1);
+        due.is("pair(9, 10)", x.pair(9, 10), 2);
+        due.is("pair(0, 9) leads round", x.pair(0, 9), NO);
+        due.is("about(9, 4)", x.about(9, 4), 2);
+        x.undo();
+        x.undo();
+        due.is("about(9, 4) undone", x.about(9, 4), 0);
+        due.is("about(10, 4) undone", x.about(10, 4), 0);
+        due.is("pair(0, 10) then", x.pair(0, 10), 1);
+        due.is("copy(10, 9, 11)", x.copy(10, 9, 11), 11);
+        due.is("road(9, 10) of the copies", x.road(9, 10), 1009);
+        due.is("lose(10)", x.lose(10), 0);
+        due.is("about(10, 1)", x.about(10, 1), 0);
+        due.is("road(9, 10) of one", x.road(9, 10), 9);
+        x.undo();
+        due.is("about(10, 1) undone", x.about(10, 1), 11);
+        due.is("road(9, 10) undone", x.road(9, 10), 1009);
+        long chain = 0;
+        for (int i = 9; i > 0; i--) {
+            chain = x.pair(i, i - 1);
+        }
+        due.is("a chain of all", chain, 10);
+        due.is("about(9, 4): by all others", x.about(9, 4), 10);
+        due.is("about(1, 4)", x.about(1, 4), 2);
+        due.is("pair(10, 9) leads round by all", x.pair(10, 9), NO);
     }
 }

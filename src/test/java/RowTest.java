@@ -23,6 +23,8 @@ public final class RowTest {
         largeNets();
         numbers();
         fullNets();
+        fullHands();
+        lightRoads();
         betterRows();
         betterOfSeveral();
         betterAndTheLaw();
@@ -397,6 +399,79 @@ public final class RowTest {
         Nets.held(due, "chain: best(5, 0)", chain, 10, 9, 8, 7, 6, 5, 4, 3, 2, 1, 0);
     }
 
+    /** Rows of 11 posts in hand: the last place counts like the others. */
+    private static void fullHands() {
+        NarrowRows x = Nets.path(11);
+        Nets.hold(x, 0, 1, 2, 3, 4, 5, 6, 7, 8, 9, 10);
+        due.is("full: lawful()", x.lawful(), 1);
+        due.is("full: where(0)", x.where(0), 0);
+        due.is("full: where(1)", x.where(1), 0);
+        due.is("full: where(2)", x.where(2), 0);
+        due.is("full: where(5)", x.where(5), NONE);
+        due.is("full: put(10)", x.put(10), BAD);
+        due.is("full: move(10, 0)", x.move(10, 0), 0);
+        Nets.held(due, "full: move(10, 0)", x, 10, 0, 1, 2, 3, 4, 5, 6, 7, 8, 9);
+        due.is("full: cost(0)", x.cost(0), 10);
+        due.is("full: cost(3)", x.cost(3), 19);
+        due.is("full: cost(4)", x.cost(4), 10);
+        due.is("full: better(3, 60)", x.better(3, 60), 1);
+        Nets.held(due, "full: better(3, 60)", x, 0, 1, 2, 3, 4, 5, 6, 7, 8, 9, 10);
+        due.is("full: move(0, 10)", x.move(0, 10), 0);
+        Nets.held(due, "full: move(0, 10)", x, 1, 2, 3, 4, 5, 6, 7, 8, 9, 10, 0);
+        x.pair(10, 0);
+        due.is("full: lawful() of law", x.lawful(), 1);
+        x.undo();
+        x.pair(0, 10);
+        due.is("full: lawful() of no law", x.lawful(), 0);
+        due.is("full: better(0, 60): 0 goes to the first place", x.better(0, 60), 1);
+        Nets.held(due, "full: better(0, 60)", x, 0, 1, 2, 3, 4, 5, 6, 7, 8, 9, 10);
+        NarrowRows y = Nets.of(3);
+        Nets.hold(y, 0, 1, 2);
+        y.undo();
+        y.undo();
+        y.undo();
+        y.undo();
+        due.is("a post that is none: cost(1)", y.cost(1), NO);
+        Nets.hold(y, 0);
+        due.is("less than all: cost(1)", y.cost(1), NO);
+        y.post();
+        Nets.hold(y, 2, 0);
+        y.undo();
+        due.is("as many as there are, but one is none: cost(1)", y.cost(1), NO);
+        due.is("as many as there are, but one is none: number(1)", y.number(1), NO);
+        due.is("as many as there are, but one is none: plan()", y.plan(), NO);
+        due.is("at(0) as it was put", y.at(0), 2);
+    }
+
+    /** Roads of weight 1 are roads, and those of 0 are none. */
+    private static void lightRoads() {
+        NarrowRows x = Nets.of(5);
+        x.weigh(0, 3, 1);
+        x.weigh(1, 2, 5);
+        x.weigh(1, 4, 0);
+        Nets.hold(x, 1, 2, 0, 4, 3);
+        due.is("where(0) of a light one", x.where(0), 2);
+        due.is("cost(0)", x.cost(0), 2);
+        due.is("cost(4)", x.cost(4), 7);
+        Nets.hold(x, 4, 1, 2, 0, 3);
+        due.is("cost(0) of both", x.cost(0), 1);
+        due.is("where(0) of both", x.where(0), 1);
+        Nets.hold(x, 1, 0, 4, 2, 3);
+        due.is("cost(0) of two like", x.cost(0), 3);
+        due.is("where(0) of two like", x.where(0), 0);
+        Nets.hold(x, 4, 0, 3, 1, 2);
+        due.is("where(0) further on", x.where(0), 1);
+        Nets.hold(x, 4, 1, 2, 3, 0);
+        due.is("where(0) of two neighbours", x.where(0), 1);
+        Nets.hold(x, 4, 1, 3, 2, 0);
+        due.is("where(0) of two that cross", x.where(0), 1);
+        NarrowRows y = Nets.of(6);
+        y.weigh(0, 1, 1);
+        y.weigh(2, 3, 1);
+        Nets.hold(y, 4, 0, 1, 2, 5, 3);
+        due.is("where(0): a longer one behind a short one", y.where(0), 3);
+    }
+
     /** Promise 22. */
     private static void betterRows() {
         NarrowRows x = Nets.path(8);
@@ -481,10 +556,10 @@ public final class RowTest {
 
     /** Each question is asked between two others: what one found must not be in the way of the next. */
     private static void nothingStaysBehind() {
-        NarrowRows x = asked();
         for (int one = 0; one < QUESTIONS; one++) {
             int alone = ask(asked(), one);
             for (int other = 0; other < QUESTIONS; other++) {
+                NarrowRows x = asked();
                 due.is("question " + one + " ahead of " + other, ask(x, one), alone);
                 ask(x, other);
                 due.is("question " + one + " behind " + other, ask(x, one), alone);
