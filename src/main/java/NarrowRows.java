@@ -143,7 +143,7 @@ public final class NarrowRows {
     }
 
     public int pair(int post, int other) {
-        if (!net.has(post) || !net.has(other) || post == other) {
+        if (!net.hasBoth(post, other)) {
             return BAD;
         }
         if (holds(net.allBehind(other), post)) {
@@ -162,7 +162,7 @@ public final class NarrowRows {
     }
 
     public int part(int post, int other) {
-        if (!net.has(post) || !net.has(other)) {
+        if (!net.hasBoth(post, other)) {
             return BAD;
         }
         if (!holds(net.behind[post], other)) {
@@ -176,7 +176,7 @@ public final class NarrowRows {
     }
 
     public int road(int post, int other) {
-        if (!net.has(post) || !net.has(other) || post == other) {
+        if (!net.hasBoth(post, other)) {
             return BAD;
         }
         return view.weightOf(post, other);
@@ -549,6 +549,11 @@ public final class NarrowRows {
 
         boolean has(int post) {
             return post >= 0 && post < posts;
+        }
+
+        /** Whether there are two posts, not one named twice: only those have a road or a pair. */
+        boolean hasBoth(int post, int other) {
+            return has(post) && has(other) && post != other;
         }
 
         boolean isMissing(int post) {

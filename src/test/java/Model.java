@@ -167,7 +167,7 @@ final class Model {
     }
 
     int part(int post, int other) {
-        if (!is(post) || !is(other)) {
+        if (!is(post) || !is(other) || post == other) {
             return BAD;
         }
         if (!state.pairs.contains(List.of(post, other))) {

@@ -265,10 +265,17 @@ public final class NetTest {
         due.is("part(3, 0)", x.part(3, 0), BAD);
         due.is("part(0, 3)", x.part(0, 3), BAD);
         due.is("part(-1, 0)", x.part(-1, 0), BAD);
+        due.is("part(MIN, MAX)", x.part(MIN, MAX), BAD);
+        for (int post = 0; post < 4; post++) {
+            due.is("part(" + post + ", " + post + "): the same one", x.part(post, post), BAD);
+        }
+        due.is("refused parts take no pair", x.count(2), 2);
+        due.is("refused parts are no changes", x.count(7), 5);
         due.is("part(1, 0): the other way round", x.part(1, 0), NO);
         due.is("part(0, 2): only by others", x.part(0, 2), NO);
         due.is("part(0, 1)", x.part(0, 1), 1);
         due.is("part(0, 1) again", x.part(0, 1), NO);
+        due.is("part(0, 0): BAD where there is no pair of it", x.part(0, 0), BAD);
         due.is("about(0, 4)", x.about(0, 4), 0);
         due.is("about(1, 4)", x.about(1, 4), 1);
         due.is("pair(2, 0) does not lead round now", x.pair(2, 0), 2);
