@@ -202,6 +202,20 @@ final class BagEdgesTest extends Edges {
         is("bag(0) of all", x.bag(0), 2);
     }
 
+    /** A ROW has all posts, so that it has as many bags: what is in hand, if that is no row, counts for nothing. */
+    @Sentence(of = "Promise 25", says = "BAD; NO.")
+    void bagsAreAsManyAsPosts() {
+        posts(3);
+        is("bag(0) of nothing in hand", x.bag(0), NO);
+        hold(2, 0);
+        is("bag(2) of all but one", x.bag(2), NO);
+        x.put(1);
+        is("bag(2) of all", x.bag(2), 2);
+        x.undo();
+        is("bag(2) of more than all", x.bag(2), BAD);
+        is("bag(1) of more than all", x.bag(1), NO);
+    }
+
     @Sentence(of = "Promise 25", says = "BAD; NO.")
     void bagIsBadAheadOfNo() {
         posts(3);
@@ -298,12 +312,12 @@ final class BagEdgesTest extends Edges {
     @Sentence(of = "Promise 27", says = "There are no BAGS IN HAND: how many there were.")
     void emptyLeavesNothingOfTheBags() {
         posts(2);
-        lay(1, 2, 1, 3);
+        lay(1, 2, 3, 1);
         x.empty();
         x.lay(1);
         is("good(): post 1 was in bags before", x.good(), 101);
         x.lay(2);
-        is("good(): nothing follows", x.good(), 0);
+        is("good(): 3 was the next bag before", x.good(), 0);
         is("rowOf()", x.rowOf(), 1);
     }
 

@@ -27,6 +27,10 @@ public final class DocumentTest {
     private final Map<String, boolean[]> held = new LinkedHashMap<>();
 
     public static void main(String[] args) throws Exception {
+        if (!Files.isReadable(DOCUMENT)) {
+            System.out.println("DocumentTest: there is no " + DOCUMENT + " to hold the tests against");
+            return;
+        }
         DocumentTest test = new DocumentTest();
         test.read();
         for (Class<? extends Edges> tests : TESTS) {

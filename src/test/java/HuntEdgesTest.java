@@ -255,6 +255,8 @@ final class HuntEdgesTest extends Edges {
             x.hunt(100 + post);
         }
         is("all gone: clean(1)", x.clean(1), 11);
+        hunt(0, 1);
+        is("two come again: clean(1)", x.clean(1), 11);
     }
 
     @Sentence(of = "Promise 33", says = "2 how often a ROAD became FOUL again,")

@@ -264,13 +264,8 @@ public final class ModelTest {
         }
     }
 
-    /** Not where BAD or NO hangs on whether bags are counted by the posts or by those in hand. */
     private void askBag(int i) {
-        int fewer = Math.min(model.state.posts, model.hand.size());
-        int more = Math.max(model.state.posts, model.hand.size());
-        if (i < fewer || i >= more) {
-            is("bag(" + i + ")", rows.bag(i), model.bag(i));
-        }
+        is("bag(" + i + ")", rows.bag(i), model.bag(i));
     }
 
     /** Lays the bags of the row in hand, now and then with a fault. */

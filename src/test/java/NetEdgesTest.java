@@ -578,6 +578,14 @@ final class NetEdgesTest extends Edges {
     }
 
     @Sentence(of = "Promise 7", says = "NO: they would lead round")
+    void pairThatLeadsRoundByTheFirstPost() {
+        posts(3);
+        x.pair(1, 0);
+        x.pair(0, 2);
+        is("pair(2, 1)", x.pair(2, 1), NO);
+    }
+
+    @Sentence(of = "Promise 7", says = "NO: they would lead round")
     void pairThatLeadsNoMoreRound() {
         posts(3);
         x.pair(0, 1);
@@ -775,6 +783,18 @@ final class NetEdgesTest extends Edges {
         is("about(10, 4) of the last", x.about(10, 4), 0);
     }
 
+    @Sentence(of = "Promise 10", says = "4 how many POSTS must stand behind it by PAIRS, straight or by others.")
+    void aboutThoseBehindByTheFirstAndTheLastPost() {
+        posts(11);
+        x.pair(5, 0);
+        x.pair(0, 10);
+        x.pair(10, 3);
+        is("about(5, 4)", x.about(5, 4), 3);
+        is("about(0, 4)", x.about(0, 4), 2);
+        is("about(10, 4)", x.about(10, 4), 1);
+        is("about(3, 4)", x.about(3, 4), 0);
+    }
+
     @Sentence(of = "Promise 10", says = "BAD.")
     void aboutNoPost() {
         is("about(0, 0) of a net without posts", x.about(0, 0), BAD);
@@ -818,6 +838,41 @@ final class NetEdgesTest extends Edges {
         }
         is("undo() of the ninth", x.undo(), NO);
         is("count(0)", x.count(0), 3);
+    }
+
+    @Sentence(of = "Promise 34", says = "The latest change that is kept is taken back: how many are kept still.")
+    void undoOfWhatIsDoneToTheLastPost() {
+        posts(11);
+        x.sheet(10, 2, 11);
+        x.weigh(10, 10, 5);
+        x.pair(10, 9);
+        is("undo(): pair", x.undo(), 7);
+        is("about(10, 4)", x.about(10, 4), 0);
+        x.weigh(10, 10, 6);
+        is("undo(): weigh", x.undo(), 7);
+        is("weigh(10, 10, 5)", x.weigh(10, 10, 5), 5);
+        x.lose(10);
+        is("undo(): lose", x.undo(), 7);
+        is("about(10, 0)", x.about(10, 0), 2);
+        is("about(10, 1)", x.about(10, 1), 11);
+        is("weigh(10, 10, 5)", x.weigh(10, 10, 5), 5);
+    }
+
+    @Sentence(of = "Promise 34", says = "The latest change that is kept is taken back: how many are kept still.")
+    void undoAfterAnyNumberOfChanges() {
+        sheets(1, 1, 1);
+        int weight = 0;
+        for (int changes = 8; changes <= 18; changes++) {
+            for (int i = 0; i < changes; i++) {
+                weight++;
+                x.weigh(0, 0, weight);
+            }
+            for (int kept = 7; kept >= 0; kept--) {
+                is(changes + " changes: undo()", x.undo(), kept);
+            }
+            is(changes + " changes: undo() of no more", x.undo(), NO);
+            is(changes + " changes: what was there ahead of 8", x.weigh(0, 0, weight), weight - 8);
+        }
     }
 
     @Sentence(of = "Promise 34", says = "NO: none.")

@@ -277,6 +277,17 @@ final class RowEdgesTest extends Edges {
         is("cost(1): the empty row", x.cost(1), 0);
     }
 
+    @Sentence(of = "Promise 15", says = "(or one that is none)")
+    void costOfARowWithOneThatIsNoneByFar() {
+        posts(11);
+        hold(10, 0, 1, 2);
+        undo(7);
+        is("count(0)", x.count(0), 4);
+        for (int cost = 0; cost <= 5; cost++) {
+            is("cost(" + cost + ")", x.cost(cost), NO);
+        }
+    }
+
     @Sentence(of = "Promise 15", says = "BAD; NO: it has not all POSTS (or one that is none).")
     void costIsBadAheadOfNo() {
         posts(1);
@@ -346,11 +357,11 @@ final class RowEdgesTest extends Edges {
 
     @Sentence(of = "Promise 16", says = "(of 0 the first place of the first ROAD, by its first place, then its second one, with that SPAN)")
     void whereOfALongerRoadBehindAShorterOne() {
-        x = Nets.of(5);
+        x = Nets.of(6);
         x.weigh(0, 1, 1000);
         x.weigh(2, 4, 1);
-        hold(0, 1, 2, 3, 4);
-        is("where(0)", x.where(SPAN), 2);
+        hold(5, 0, 1, 2, 3, 4);
+        is("where(0)", x.where(SPAN), 3);
     }
 
     @Sentence(of = "Promise 16", says = "NONE: there is none such (nothing costs,")
@@ -491,6 +502,39 @@ final class RowEdgesTest extends Edges {
         hold(1, 0);
         is("least(1)", x.least(CUTS), 1);
         inHand("least()", 1, 0);
+    }
+
+    @Sentence(of = "Promise 18", says = "The least COST of a LAWFUL ROW.")
+    void leastOfTheNetAsItIsNow() {
+        x = Nets.path(4);
+        int[] path = {1, 1, 1, 3, 3, 1};
+        int[] ring = {2, 3, 2, 7, 5, 2};
+        for (int cost = 0; cost <= 5; cost++) {
+            is("path: least(" + cost + ")", x.least(cost), path[cost]);
+            x.weigh(3, 0, 2);
+            x.pair(0, 1);
+            is("ring: least(" + cost + ")", x.least(cost), ring[cost]);
+            undo(2);
+            is("path again: least(" + cost + ")", x.least(cost), path[cost]);
+        }
+    }
+
+    @Sentence(of = "Promise 18", says = "The least COST of a LAWFUL ROW.")
+    void leastOfFewerPostsThanBefore() {
+        x = Nets.of(2);
+        x.weigh(0, 2, 5);
+        x.weigh(0, 3, 5);
+        posts(2);
+        for (int cost = 0; cost <= 5; cost++) {
+            is("4 posts: least(" + cost + ")", x.least(cost), new int[] {1, 5, 1, 10, 10, 1}[cost]);
+        }
+        for (int cost = 0; cost <= 5; cost++) {
+            x.least(cost);
+            undo(2);
+            is("2 posts: least(" + cost + ")", x.least(cost), cost == CELLS ? 1 : 0);
+            is("2 posts: many(" + cost + ")", x.many(cost), 2);
+            posts(2);
+        }
     }
 
     @Sentence(of = "Promise 18", says = "BAD")
@@ -802,6 +846,24 @@ final class RowEdgesTest extends Edges {
         x.pair(0, 1);
         x.pair(2, 3);
         is("number(5)", x.number(CELLS), NONE);
+    }
+
+    @Sentence(of = "Promise 21", says = "NONE: it is none.")
+    void numberOfARowThatWasOneBefore() {
+        x = Nets.of(3);
+        for (int cost = 0; cost <= 5; cost++) {
+            hold(1, 0, 2);
+            is("number(" + cost + ") of all rows", x.number(cost), 2);
+            x.pair(0, 2);
+            x.pair(2, 1);
+            is("number(" + cost + ") of one lawful row", x.number(cost), NONE);
+            hold(0, 2, 1);
+            is("number(" + cost + ") of that one", x.number(cost), 0);
+            x.part(0, 2);
+            hold(2, 0, 1);
+            is("number(" + cost + ") of three lawful rows", x.number(cost), 1);
+            x.part(2, 1);
+        }
     }
 
     @Sentence(of = "Promise 21", says = "NONE: it is none.")

@@ -988,18 +988,25 @@ final class TermEdgesTest extends Edges {
 
     @Sentence(of = "Terms", says = "CHANGES are the calls of post, sheet, lose, weigh, copy, pair, part that are not refused.")
     void changesThatChangeNothingToBeSeen() {
-        posts(2);
-        x.sheet(0, 1, 0);
-        x.sheet(0, 1, 0);
-        is("the same sheet: count(7)", x.count(7), 4);
+        x.post();
+        x.sheet(0, 1, 1);
+        x.sheet(0, 1, 1);
+        is("the same sheet: count(7)", x.count(7), 3);
+        x.weigh(0, 0, 0);
+        is("the same weight: count(7)", x.count(7), 4);
+        x.copy(0, 0, 1);
+        is("a copy to itself: count(7)", x.count(7), 5);
         x.copy(0, 0, 0);
-        is("a copy of no places: count(7)", x.count(7), 5);
+        is("a copy of no places: count(7)", x.count(7), 6);
+        undo(4);
+        is("about(0, 1): the first of the two sheets", x.about(0, 1), 1);
+        x.post();
         x.pair(0, 1);
         x.pair(0, 1);
-        is("the same pair: count(7)", x.count(7), 7);
-        is("undo() of the same pair", x.undo(), 6);
+        is("the same pair: count(7)", x.count(7), 5);
+        is("undo() of the same pair", x.undo(), 4);
         is("count(2)", x.count(2), 1);
-        is("undo() of the pair", x.undo(), 5);
+        is("undo() of the pair", x.undo(), 3);
         is("count(2)", x.count(2), 0);
     }
 
